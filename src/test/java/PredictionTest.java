@@ -99,6 +99,12 @@ public final class PredictionTest {
         Bench.due("no pace", x.slowestPace(500), slowest(x, 500));
         x.setPace(1);
         Bench.due("the present pace has no effect", x.slowestPace(500), slowest(x, 500));
+        ConverterScanner tight = Bench.made("regular 0;continuous;trigger 0 regular;queue 1;");
+        tight.fire(0);
+        tight.run(28);
+        // Only the paces 29 and 1 transfer in cycle 28, and 29 is too slow for the result after the next one.
+        Bench.due("the paces 29 and 1", tight.slowestPace(16), 29);
+        Bench.due("pace 1 alone", tight.slowestPace(17), 1);
         ConverterScanner late = Bench.made("regular 0;continuous;trigger 0 regular;queue 1;");
         late.fire(0);
         late.run(29);
@@ -188,5 +194,16 @@ public final class PredictionTest {
         x.restore(1);
         Bench.due("restore(0)", x.restore(0), 25);
         Bench.due("the other one stays", x.restore(1), 20);
+        ConverterScanner raised = Bench.made("regular 3;trigger 2 regular;window 1 low 5 high 5 delay 1 on 3;");
+        raised.fire(2);
+        raised.run(15);
+        String before = Bench.everything(raised);
+        raised.save(0);
+        raised.acknowledge(1);
+        raised.restore(0);
+        Bench.dueText("a raised window that is restored", Bench.everything(raised), before);
+        Bench.due("its cycle", raised.window(1, 6), 14);
+        Bench.due("its channel", raised.window(1, 7), 3);
+        Bench.due("its trigger", raised.window(1, 8), 2);
     }
 }

@@ -221,11 +221,11 @@ public final class RunTest {
         busy.run(15);
         Bench.due("auto starts it", busy.sequence(true, 4), 14);
         Bench.due("a trigger misses it then", busy.fire(1), 0);
-        ConverterScanner grouped = Bench.made("regular 0 1 2;group 2;continuous;trigger 0 regular;queue 8;");
+        ConverterScanner grouped = Bench.made("regular 0 1 2 3 4;group 2;continuous;trigger 0 regular;queue 8;");
         grouped.fire(0);
         Bench.due("continuous groups", grouped.run(15 * 6), 6);
-        Bench.due("passes of continuous groups", grouped.sequence(false, 6), 4);
-        Bench.due("the fourth channel", grouped.queued(3, 0), 0);
+        Bench.due("passes of continuous groups", grouped.sequence(false, 6), 3);
+        Bench.due("the sixth channel", grouped.queued(5, 0), 0);
     }
 
     private static void promise7Windows() {
@@ -360,8 +360,13 @@ public final class RunTest {
         Bench.due("its position is 0 too", x.sequence(false, 2), 0);
         x.fire(0);
         x.run(30);
+        Bench.due("stop between results", x.stop(), 1);
+        Bench.due("nothing broken off then", x.state(5), 1);
+        x.fire(0);
+        x.run(15);
         Bench.due("stop between conversions", x.stop(), 1);
         Bench.due("nothing broken off then", x.state(5), 1);
+        Bench.due("the first conversion does not count", x.sequence(false, 7), 0);
         x.fire(0);
         x.fire(1);
         x.run(2);

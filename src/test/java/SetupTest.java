@@ -149,6 +149,12 @@ public final class SetupTest {
         x.setup();
         x.fire(0);
         Bench.due("run without over and group", x.run(45), 3);
+        for (int i = 0; i < 3; i++) {
+            // What one text told is not repeated in the next one.
+            Bench.feed(x, "channel 0;window 0 low 0 high 0 delay 1 on 0;trigger 0 regular;regular 1;injected 1;group 1;"
+                    + "continuous;auto;over 0 shift 0;queue 1;pace 1;");
+            Bench.due("the same setup again", x.setup(), 11);
+        }
         Bench.due("the buffer is empty after setup", x.truncate(0), 0);
         Bench.due("setup of nothing", x.setup(), 0);
         Bench.dueText("what is told after setup of nothing", Bench.everything(x),
@@ -279,6 +285,12 @@ public final class SetupTest {
         error("queue 3 newest newest;", 1, 15);
         error("newest;", 1, 0);
         error("5;", 1, 0);
+        error("autoz;", 1, 0);
+        error("zauto;", 1, 0);
+        error("auto{;", 1, 4);
+        error("auto`;", 1, 4);
+        error("pace 5:", 1, 6);
+        error("pace 5/", 1, 6);
         error("-", 1, 0);
     }
 
@@ -338,6 +350,7 @@ public final class SetupTest {
         Bench.due("errorCode after a range error", x.errorCode(), 2);
         Bench.due("errorPosition after a range error", x.errorPosition(), 5);
         x.run(1);
+        x.save(0);
         Bench.due("errorCode after other calls", x.errorCode(), 2);
         Bench.feed(x, "pace 10;");
         x.setup();

@@ -80,6 +80,8 @@ public final class StateTest {
         ConverterScanner x = busy();
         Bench.due("entry(false, 2)", x.entry(false, 2), 2);
         Bench.due("entry(true, 1)", x.entry(true, 1), 4);
+        Bench.due("entry(false, 0)", x.entry(false, 0), 0);
+        Bench.due("entry(true, 0)", x.entry(true, 0), 3);
         Bench.dueThrow("entry(false, 3)", x, Bench.BOUNDS, () -> x.entry(false, 3));
         Bench.dueThrow("entry(true, 2)", x, Bench.BOUNDS, () -> x.entry(true, 2));
         Bench.dueThrow("entry(false, -1)", x, Bench.BOUNDS, () -> x.entry(false, -1));

@@ -39,17 +39,12 @@ public final class ConverterScanner {
     private static final int REPEATED = 3;
     private static final int LIMIT = 4;
 
-    private final byte[] buffer = new byte[BUFFER_BYTES];
-    private int length;
-
-    // What is never changed is copied where everything has to be as at first.
-    private final Converter first = new Converter();
     private final Converter live = new Converter();
-    // Predictions and setup texts that may have an error are worked out here, so that the live one stays as it is.
-    private final Converter scratch = new Converter();
+    // Predictions are worked out here, so that the live one stays as it is.
+    private final Converter trial = new Converter();
     private final Converter[] slots = {new Converter(), new Converter()};
     private final boolean[] isSaved = new boolean[SLOTS];
-    private final Parser parser = new Parser(buffer, scratch);
+    private final Parser parser = new Parser();
 
     public ConverterScanner() {
     }
@@ -57,38 +52,32 @@ public final class ConverterScanner {
     // ---- the setup text
 
     public int append(int a, int b, int c, int d, int e) throws IllegalStateException {
-        if (length > BUFFER_BYTES - BYTES_PER_APPEND) {
+        Tokens buffer = parser.tokens;
+        if (buffer.length > BUFFER_BYTES - BYTES_PER_APPEND) {
             throw new IllegalStateException("the buffer would exceed 900 bytes");
         }
-        putBytes(length, a);
-        putBytes(length + 4, b);
-        putBytes(length + 8, c);
-        putBytes(length + 12, d);
-        putBytes(length + 16, e);
-        length += BYTES_PER_APPEND;
-        return length;
-    }
-
-    private void putBytes(int start, int number) {
-        for (int i = 0; i < 4; i++) {
-            buffer[start + i] = (byte) (number >> (24 - 8 * i));
-        }
+        buffer.addBytes(a);
+        buffer.addBytes(b);
+        buffer.addBytes(c);
+        buffer.addBytes(d);
+        buffer.addBytes(e);
+        return buffer.length;
     }
 
     public int truncate(int length) throws IllegalArgumentException {
-        if (length < 0 || length > this.length) {
+        Tokens buffer = parser.tokens;
+        if (length < 0 || length > buffer.length) {
             throw new IllegalArgumentException("the length is not 0 to the current length");
         }
-        this.length = length;
+        buffer.length = length;
         return length;
     }
 
     public int setup() {
-        scratch.copyFrom(first);
-        int statements = parser.parse(length);
-        length = 0;
+        int statements = parser.parse();
+        parser.tokens.length = 0;
         if (statements != NONE) {
-            live.copyFrom(scratch);
+            live.copyFrom(parser.draft);
             for (int i = 0; i < SLOTS; i++) {
                 isSaved[i] = false;
             }
@@ -338,12 +327,12 @@ public final class ConverterScanner {
 
     public int nextResult(int most) throws IllegalArgumentException {
         requireCycles(most, MOST_CYCLES);
-        scratch.copyFrom(live);
+        trial.copyFrom(live);
         int before = live.resultCount();
         for (int i = 0; i < most; i++) {
-            int cycle = scratch.cycle;
-            scratch.passCycle();
-            if (scratch.resultCount() != before) {
+            int cycle = trial.cycle;
+            trial.passCycle();
+            if (trial.resultCount() != before) {
                 return cycle;
             }
         }
@@ -356,10 +345,10 @@ public final class ConverterScanner {
         if (live.windows[window].isRaised) {
             return NONE;
         }
-        scratch.copyFrom(live);
-        Window watched = scratch.windows[window];
+        trial.copyFrom(live);
+        Window watched = trial.windows[window];
         for (int i = 0; i < most && !watched.isRaised; i++) {
-            scratch.passCycle();
+            trial.passCycle();
         }
         return watched.raisedCycle;
     }
@@ -382,12 +371,12 @@ public final class ConverterScanner {
 
     /** Lets cycles pass on trial, until there are as many overruns as are of interest. */
     private int countOverruns(int pace, int cycles, int enough) {
-        scratch.copyFrom(live);
-        scratch.pace = pace;
+        trial.copyFrom(live);
+        trial.pace = pace;
         int overruns = 0;
         for (int i = 0; i < cycles && overruns < enough; i++) {
-            scratch.passCycle();
-            overruns = scratch.queue.overruns - live.queue.overruns;
+            trial.passCycle();
+            overruns = trial.queue.overruns - live.queue.overruns;
         }
         return overruns;
     }
@@ -946,8 +935,11 @@ public final class ConverterScanner {
 
     /** Reads a setup text into a converter, up to its first error. */
     private static final class Parser {
-        private final Tokens tokens;
-        private final Converter draft;
+        final Tokens tokens = new Tokens();
+        // A text may have an error, so what it tells stands here until its end is reached.
+        final Converter draft = new Converter();
+        // It is never changed: what is not told is as here.
+        private final Converter first = new Converter();
         private int number;
         private int toldWords;
         private int toldChannels;
@@ -956,22 +948,18 @@ public final class ConverterScanner {
         int errorCode = NO_ERROR;
         int errorPosition = NONE;
 
-        Parser(byte[] text, Converter draft) {
-            tokens = new Tokens(text);
-            this.draft = draft;
-        }
-
         /** Returns the number of statements, or NONE with an error. */
-        int parse(int length) {
+        int parse() {
             errorCode = NO_ERROR;
             errorPosition = NONE;
             toldWords = 0;
             toldChannels = 0;
             toldWindows = 0;
             toldTriggers = 0;
-            tokens.begin(length);
+            draft.copyFrom(first);
+            tokens.begin();
             int statements = 0;
-            for (int i = 0; i < length && tokens.kind != Tokens.END; i++) {
+            for (int i = 0; i < tokens.length && tokens.kind != Tokens.END; i++) {
                 if (!readStatement() || !takeSign(';')) {
                     return NONE;
                 }
@@ -1223,7 +1211,7 @@ public final class ConverterScanner {
         }
     }
 
-    /** The tokens of a text; the present one is the first that is not taken yet. */
+    /** The input buffer and the tokens of its text; the present token is the first that is not taken yet. */
     private static final class Tokens {
         static final int END = 0;
         static final int WORD = 1;
@@ -1234,8 +1222,8 @@ public final class ConverterScanner {
         private static final int MOST_LETTERS = 10;
         private static final int MOST_DIGITS = 5;
 
-        private final byte[] text;
-        private int length;
+        private final byte[] text = new byte[BUFFER_BYTES];
+        int length;
         private int end;
         private long letters;
         int start;
@@ -1244,12 +1232,15 @@ public final class ConverterScanner {
         int number;
         Word word = Word.OTHER;
 
-        Tokens(byte[] text) {
-            this.text = text;
+        /** Adds the four bytes of a number to the buffer, its highest byte first. */
+        void addBytes(int number) {
+            for (int shift = 24; shift >= 0 && length < text.length; shift -= 8) {
+                text[length] = (byte) (number >> shift);
+                length++;
+            }
         }
 
-        void begin(int length) {
-            this.length = length < text.length ? length : text.length;
+        void begin() {
             end = 0;
             next();
         }

@@ -39,13 +39,16 @@ final class Bench {
 
     /** The call has to throw just this exception, and nothing that the object tells may change by it. */
     static void dueThrow(String what, ConverterScanner x, Class<?> due, Call call) {
-        checks++;
         String before = everything(x);
-        Class<?> got = thrownBy(call);
+        dueThrown(what, thrownBy(call), due);
+        dueText("what is told after " + what, everything(x), before);
+    }
+
+    static void dueThrown(String what, Class<?> got, Class<?> due) {
+        checks++;
         if (got != due) {
             report(what + " threw " + got + ", due is " + due);
         }
-        dueText("what is told after " + what, everything(x), before);
     }
 
     static Class<?> thrownBy(Call call) {

@@ -16,6 +16,8 @@ public final class SetupTest {
         promise5And6Limit();
         promise5And6LowestCode();
         promise5And6LatestSetup();
+        promise5And6LengthsOfTokens();
+        promise5And6FullBuffer();
         Bench.end("SetupTest");
     }
 
@@ -356,5 +358,44 @@ public final class SetupTest {
         x.setup();
         Bench.due("errorCode after a good setup", x.errorCode(), 0);
         Bench.due("errorPosition after a good setup", x.errorPosition(), NONE);
+    }
+
+    private static void promise5And6LengthsOfTokens() {
+        statements("continuous;", 1);
+        error("continuouss;", 1, 0);
+        error("ccontinuous;", 1, 0);
+        error("autoautoau;", 1, 0);
+        error("a".repeat(899) + ";", 1, 0);
+        statements("pace 00999;", 1);
+        error("pace 000999;", 1, 5);
+        error("pace 0;pace 00000;", 3, 7);
+        statements("channel 00007 sample 00099 trim -00099 base 04095 slope 00000 period 09999;", 1);
+        error("channel 000007;", 1, 8);
+        error("channel 0 trim -000099;", 1, 16);
+        error("channel 0 base 100000;", 1, 15);
+        error("9".repeat(900), 1, 0);
+        // 59 and 45 are the bytes of the two signs that the grammar has, but a number is no sign.
+        error("auto 000059", 1, 5);
+        error("auto 59", 1, 5);
+        error("channel 0 trim 000045 5;", 1, 15);
+        error("channel 0 trim 45 5;", 1, 18);
+    }
+
+    private static void promise5And6FullBuffer() {
+        String blanks = " \n".repeat(450);
+        statements(blanks, 0);
+        statements(blanks.substring(5) + "auto;", 1);
+        statements("auto;" + blanks.substring(5), 1);
+        statements("auto;" + blanks.substring(12) + "pace 5;", 2);
+        error("auto;" + blanks.substring(6) + "x", 1, 899);
+        error("auto" + blanks.substring(4), 1, 900);
+        error(blanks.substring(7) + "pace 55", 1, 900);
+        error(blanks.substring(8) + "pace 999", 1, 900);
+        error(blanks.substring(9) + "pace 9999", 2, 896);
+        ConverterScanner x = Bench.made("pace 7;");
+        Bench.feed(x, "auto;" + blanks.substring(12) + "pace 55");
+        Bench.due("a refused text of 900 bytes", x.setup(), NONE);
+        Bench.due("the earlier setup stays", x.state(8), 7);
+        Bench.due("the buffer is empty", x.append(0, 0, 0, 0, 0), 20);
     }
 }

@@ -152,6 +152,13 @@ public final class EdgeTest {
                 Bench.due("trigger " + i + " before cycle " + x.state(0), x.trigger(i, 3), step[i + 1]);
             }
         }
+        while (x.state(0) < 2_500_000) {
+            x.run(5000 - x.state(0) % 5000);
+        }
+        Bench.due("every 9999 from 9999, for long", x.trigger(0, 3), 2_499_999 / 9999);
+        Bench.due("every cycle from 9999, for long", x.trigger(1, 3), 2_500_000 - 9999);
+        Bench.due("every 9999 from 0, for long", x.trigger(2, 3), 2_499_999 / 9999 + 1);
+        Bench.due("every 2 from 1, for long", x.trigger(3, 3), 1_250_000);
         ConverterScanner none = Bench.made("trigger 0 regular;trigger 1 injected;");
         none.run(5000);
         for (int i = 0; i < 4; i++) {

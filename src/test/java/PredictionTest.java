@@ -8,7 +8,8 @@ public final class PredictionTest {
         promise32OverrunsWith();
         promise33SlowestPace();
         promise34PassLength();
-        promise35And36SaveAndRestore();
+        promise35And36SaveAndRestore(0);
+        promise35And36SaveAndRestore(1);
         promise36TwoSlots();
         Bench.end("PredictionTest");
     }
@@ -136,7 +137,7 @@ public final class PredictionTest {
         Bench.due("passLength without entries", bare.passLength(false) + bare.passLength(true), 0);
     }
 
-    private static void promise35And36SaveAndRestore() {
+    private static void promise35And36SaveAndRestore(int slot) {
         ConverterScanner x = Bench.made("regular 0 1 2;injected 3 4;auto;group 2;over 1 shift 0 keep;queue 3;pace 25;"
                 + "channel 0 base 9;window 0 low 0 high 5 delay 2 on 0;trigger 0 regular every 70 from 3;"
                 + "trigger 1 injected every 55;");
@@ -148,17 +149,17 @@ public final class PredictionTest {
         Bench.dueThrow("restore(1)", x, Bench.STATE, () -> x.restore(1));
         x.run(333);
         String before = Bench.everything(x);
-        Bench.due("save", x.save(1), 333);
+        Bench.due("save", x.save(slot), 333);
         Bench.dueText("what is told after save", Bench.everything(x), before);
-        Bench.dueThrow("restore of the other slot", x, Bench.STATE, () -> x.restore(0));
+        Bench.dueThrow("restore of the other slot", x, Bench.STATE, () -> x.restore(1 - slot));
         change(x);
         String changed = Bench.everything(x);
         Bench.feed(x, "pace 77;");
-        Bench.due("restore", x.restore(1), 333);
+        Bench.due("restore", x.restore(slot), 333);
         Bench.dueText("what is told after restore", Bench.everything(x), before);
         change(x);
         Bench.dueText("what is told after the same calls", Bench.everything(x), changed);
-        Bench.due("restore again", x.restore(1), 333);
+        Bench.due("restore again", x.restore(slot), 333);
         Bench.dueText("what is told after restore", Bench.everything(x), before);
         Bench.due("the buffer is not restored", x.truncate(8), 8);
         Bench.due("nor emptied", x.setup(), 1);

@@ -353,7 +353,18 @@ public final class SetupTest {
         Bench.due("errorPosition after a range error", x.errorPosition(), 5);
         x.run(1);
         x.save(0);
+        x.restore(0);
+        x.append(0, 0, 0, 0, 0);
+        x.truncate(0);
         Bench.due("errorCode after other calls", x.errorCode(), 2);
+        Bench.due("errorPosition after other calls", x.errorPosition(), 5);
+        Bench.feed(x, "auto");
+        x.setup();
+        Bench.due("errorCode of the later error", x.errorCode(), 1);
+        Bench.due("errorPosition of the later error", x.errorPosition(), 4);
+        x.restore(0);
+        Bench.due("errorCode is not restored", x.errorCode(), 1);
+        Bench.due("errorPosition is not restored", x.errorPosition(), 4);
         Bench.feed(x, "pace 10;");
         x.setup();
         Bench.due("errorCode after a good setup", x.errorCode(), 0);

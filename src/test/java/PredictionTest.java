@@ -11,6 +11,7 @@ public final class PredictionTest {
         promise35And36SaveAndRestore(0);
         promise35And36SaveAndRestore(1);
         promise36TwoSlots();
+        promise36WithinAPassAndAResult();
         Bench.end("PredictionTest");
     }
 
@@ -206,5 +207,37 @@ public final class PredictionTest {
         Bench.due("its cycle", raised.window(1, 6), 14);
         Bench.due("its channel", raised.window(1, 7), 3);
         Bench.due("its trigger", raised.window(1, 8), 2);
+    }
+
+    private static void promise36WithinAPassAndAResult() {
+        ConverterScanner group = Bench.made("regular 0 1 2;group 2;trigger 0 regular;");
+        group.fire(0);
+        group.run(5);
+        group.save(1);
+        group.run(25);
+        group.fire(0);
+        group.run(1);
+        group.restore(1);
+        Bench.due("the pass ends where the saved one did", group.run(100), 2);
+        Bench.due("its position", group.sequence(false, 2), 2);
+        ConverterScanner sum = Bench.made("channel 0 base 100;regular 0;over 1 shift 0;trigger 0 regular;");
+        sum.fire(0);
+        sum.run(15);
+        sum.save(0);
+        sum.run(15);
+        sum.setSignal(0, 7, 0, 1);
+        sum.restore(0);
+        sum.setSignal(0, 30, 0, 1);
+        sum.run(15);
+        Bench.due("the saved conversion counts in the result", sum.queued(0, 3), 130);
+        ConverterScanner measured = Bench.made("channel 0 base 100;regular 0;trigger 0 regular every 15;");
+        measured.run(3);
+        measured.save(0);
+        measured.setSignal(0, 7, 0, 1);
+        measured.run(27);
+        Bench.due("what is measured later", measured.queued(1, 3), 7);
+        measured.restore(0);
+        measured.run(12);
+        Bench.due("what was measured before save", measured.queued(0, 3), 100);
     }
 }

@@ -480,6 +480,15 @@ public final class RunTest {
         Bench.due("high", x.window(0, 1), 0);
         x.run(15);
         Bench.due("a result inside", x.window(0, 4), 0);
+        x.setWindow(0, 3, 4444);
+        Bench.due("the low bound that is set", x.window(0, 0), 3);
+        Bench.due("the high bound that is set", x.window(0, 1), 4444);
+        x.setSignal(2, 3, 0, 1);
+        x.run(15);
+        Bench.due("a result at the low bound", x.window(0, 4), 0);
+        x.setSignal(2, 2, 0, 1);
+        x.run(15);
+        Bench.due("a result below the low bound", x.window(0, 4), 1);
     }
 
     private static void promise15SetPace() {

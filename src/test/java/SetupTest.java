@@ -324,6 +324,11 @@ public final class SetupTest {
         error("channel 0 slope 0 slope", 3, 18);
         error("channel 0 period 1 period", 3, 19);
         error("channel 0 sample 1 trim 1 base 1 slope 1 period 1 sample", 3, 50);
+        // What is told between the two does not make the first one forgotten.
+        error("window 0 low 0 high 0 delay 1 on 0;window 2 low 0 high 0 delay 1 on 0;window 0", 3, 77);
+        error("trigger 0 regular;trigger 3 injected;trigger 0", 3, 45);
+        error("pace 1;auto;queue 2;pace", 3, 20);
+        error("channel 0 sample 1 trim 1 sample", 3, 26);
         error("window 1 low 0 high 0 delay 1 on 0 1 0;", 3, 37);
         error("window 1 low 0 high 0 delay 1 on 0 1 2 3 4 5 6 7 7;", 3, 49);
         statements("window 1 low 0 high 0 delay 1 on 7 6 5 4 3 2 1 0;", 1);

@@ -107,6 +107,15 @@ public final class StateTest {
         zero.run(20);
         Bench.due("a least result of 0", zero.channel(5, 6), 0);
         Bench.due("a greatest result of 0", zero.channel(5, 7), 0);
+        // One result, then a lower one, one between them, and a greater one.
+        int[][] bases = {{20, 20, 20}, {10, 10, 20}, {15, 10, 20}, {30, 10, 30}};
+        ConverterScanner four = Bench.made("regular 5;trigger 0 regular every 20;");
+        for (int[] base : bases) {
+            four.setSignal(5, base[0], 0, 1);
+            four.run(20);
+            Bench.due("the least result with " + base[0], four.channel(5, 6), base[1]);
+            Bench.due("the greatest result with " + base[0], four.channel(5, 7), base[2]);
+        }
     }
 
     private static void promise20And21SumAndMean() {
